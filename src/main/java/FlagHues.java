@@ -30,7 +30,7 @@ public final class FlagHues {
     private static final int HUE_STILL_NEEDED = 9;
     private static final int HUE_NOT_USABLE = 10;
 
-    private static final int CARRIED_OUT = 0;
+    private static final int CAN_BE = 0;
     private static final int REFUSED = -1;
     private static final int WRONG = -2;
 
@@ -91,7 +91,7 @@ public final class FlagHues {
             case 0: return now.size[country];
             case 1: return now.hue[country];
             case 2: return now.countNeighbours(country);
-            case 3: return now.countFreeHues(country);
+            case 3: return Integer.bitCount(now.freeHues(country));
             case 4: return now.wish[country];
             case 5: return now.crown[country];
             case 6: return now.placeOf(country);
@@ -447,28 +447,31 @@ public final class FlagHues {
         int many = 0;
         orders.at = 0;
         while (many < MOST_CHARACTERS && orders.takeOrder()) {
-            int outcome = carryOut(orders.letter, orders.values[0], orders.values[1], orders.values[2]);
-            if (outcome != CARRIED_OUT) {
+            int first = orders.values[0];
+            int second = orders.values[1];
+            int third = orders.values[2];
+            int verdict = judge(orders.letter, first, second, third);
+            if (verdict != CAN_BE) {
                 now.copyFrom(before);
-                return outcome;
+                return verdict;
             }
+            perform(orders.letter, first, second, third);
             many++;
         }
         past.keep(before);
         return many;
     }
 
-    private int carryOut(int letter, int first, int second, int third) {
+    private int judge(int letter, int first, int second, int third) {
         if (!isInRange(letter, first, second, third)) {
             return WRONG;
         }
         int found = reasonAgainstOrder(letter, first, second);
-        if (found != NOT_REFUSED) {
-            keepReason(found, first, second);
-            return REFUSED;
+        if (found == NOT_REFUSED) {
+            return CAN_BE;
         }
-        perform(letter, first, second, third);
-        return CARRIED_OUT;
+        keepReason(found, first, second);
+        return REFUSED;
     }
 
     private boolean isInRange(int letter, int first, int second, int third) {
@@ -686,7 +689,7 @@ public final class FlagHues {
                 if (country == NONE) {
                     break;
                 }
-                cover(country, lowestFreeHue(country));
+                cover(country, lowestOf(freeHues(country)));
                 filled++;
             }
             return filled;
@@ -706,12 +709,33 @@ public final class FlagHues {
             return (neighbours[country] >> other & 1) != 0;
         }
 
-        boolean isFree(int country, int wanted) {
-            return reasonAgainstPaint(country, wanted) == NOT_REFUSED;
+        /** One bit for each hue that is free for the country; none if it is painted. */
+        int freeHues(int country) {
+            if (hue[country] != NONE) {
+                return 0;
+            }
+            int around = huesAround(country);
+            int free = 0;
+            for (int h = 0; h < usable; h++) {
+                if ((around >> h & 1) == 0 && pots[h] >= size[country]) {
+                    free |= 1 << h;
+                }
+            }
+            return free;
+        }
+
+        private int huesAround(int country) {
+            int around = 0;
+            for (int other = 0; other < countries; other++) {
+                if ((neighbours[country] >> other & 1) != 0 && hue[other] != NONE) {
+                    around |= 1 << hue[other];
+                }
+            }
+            return around;
         }
 
         boolean isStuck(int country) {
-            return !isPainted(country) && countFreeHues(country) == 0;
+            return !isPainted(country) && freeHues(country) == 0;
         }
 
         boolean isFulfilled(int country) {
@@ -720,16 +744,6 @@ public final class FlagHues {
 
         int countNeighbours(int country) {
             return Integer.bitCount(neighbours[country]);
-        }
-
-        int countFreeHues(int country) {
-            int many = 0;
-            for (int h = 0; h < usable; h++) {
-                if (isFree(country, h)) {
-                    many++;
-                }
-            }
-            return many;
         }
 
         int placeOf(int country) {
@@ -761,8 +775,8 @@ public final class FlagHues {
         }
 
         private boolean isBetterToPaint(int country, int best) {
-            int free = countFreeHues(country);
-            int bestFree = countFreeHues(best);
+            int free = Integer.bitCount(freeHues(country));
+            int bestFree = Integer.bitCount(freeHues(best));
             if (free != bestFree) {
                 return free < bestFree;
             }
@@ -771,10 +785,11 @@ public final class FlagHues {
         }
 
         int gentlestHue(int country) {
+            int free = freeHues(country);
             int gentlest = NONE;
             int fewestRobbed = 0;
-            for (int h = 0; h < usable; h++) {
-                if (isFree(country, h)) {
+            for (int h = 0; h < ALL_HUES; h++) {
+                if ((free >> h & 1) != 0) {
                     int robbed = countRobbed(country, h);
                     if (gentlest == NONE || robbed < fewestRobbed) {
                         gentlest = h;
@@ -788,7 +803,7 @@ public final class FlagHues {
         private int countRobbed(int country, int taken) {
             int robbed = 0;
             for (int other = 0; other < countries; other++) {
-                if (areNeighbours(country, other) && isFree(other, taken)) {
+                if (areNeighbours(country, other) && (freeHues(other) >> taken & 1) != 0) {
                     robbed++;
                 }
             }
@@ -797,16 +812,16 @@ public final class FlagHues {
 
         private int firstWithOneFreeHue() {
             for (int country = 0; country < countries; country++) {
-                if (countFreeHues(country) == 1) {
+                if (Integer.bitCount(freeHues(country)) == 1) {
                     return country;
                 }
             }
             return NONE;
         }
 
-        private int lowestFreeHue(int country) {
+        private static int lowestOf(int free) {
             int h = 0;
-            while (h < usable - 1 && !isFree(country, h)) {
+            while (h < ALL_HUES - 1 && (free >> h & 1) == 0) {
                 h++;
             }
             return h;

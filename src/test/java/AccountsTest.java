@@ -9,9 +9,12 @@ public final class AccountsTest {
         promise34Painted();
         promise35Undo();
         promise35UndoOfEachChange();
+        promise35UndoOfTheOrderOfSteps();
         promise35OnlyEightAreUndone();
         promise36Save();
         promise37Restore();
+        promise37RestoreOfSizesAndSteps();
+        promise31And32OfAFullMap();
         Checks.end();
     }
 
@@ -118,6 +121,23 @@ public final class AccountsTest {
         }
     }
 
+    private static void promise35UndoOfTheOrderOfSteps() {
+        FlagHues x = Checks.withSizes(1, 1);
+        x.paint(1, 0);
+        x.paint(0, 1);
+        Checks.read(x, "x;x;p0=0;p1=2");
+        Checks.due("the first step", 0, x.step(0));
+        x.undo();
+        Checks.due("the first step after undo()", 1, x.step(0));
+        Checks.due("the second step after undo()", 0, x.step(1));
+        x.back();
+        x.back();
+        x.paint(0, 2);
+        x.undo();
+        x.undo();
+        Checks.due("the first step after more of it", 1, x.step(0));
+    }
+
     private static void promise35OnlyEightAreUndone() {
         FlagHues x = new FlagHues();
         for (int i = 1; i <= 20; i++) {
@@ -165,5 +185,45 @@ public final class AccountsTest {
         x.country(4);
         Checks.due("the snapshot stays", 2, x.restore());
         Checks.due("the map after the second restore()", before, Checks.pictureOf(x));
+    }
+
+    private static void promise37RestoreOfSizesAndSteps() {
+        FlagHues x = Checks.withSizes(3, 4);
+        x.wish(1, 2, 8);
+        x.paint(1, 0);
+        x.paint(0, 1);
+        x.save();
+        for (int i = 0; i < 5; i++) {
+            x.undo();
+        }
+        x.country(8);
+        x.country(9);
+        x.pots(2, 50);
+        x.paint(0, 2);
+        x.paint(1, 2);
+        Checks.due("restore()", 2, x.restore());
+        Checks.due("the size of 0", 3, x.countryOf(0, 0));
+        Checks.due("the size of 1", 4, x.countryOf(1, 0));
+        Checks.due("the wish of 1", 2, x.countryOf(1, 4));
+        Checks.due("the crown of 1", 8, x.countryOf(1, 5));
+        Checks.due("the first step", 1, x.step(0));
+        Checks.due("the second step", 0, x.step(1));
+        Checks.due("the pots of hue 2", 9, x.hueOf(2, 0));
+    }
+
+    private static void promise31And32OfAFullMap() {
+        FlagHues x = Checks.withSizes(1, 2, 3, 4, 5, 6, 7);
+        x.border(0, 6);
+        x.hues(1);
+        x.paint(6, 0);
+        int[] want = {7, 1, 1, 1, 5, 1, 38, 7, 0, 2, 1, 0, 8};
+        x.wish(6, 0, 1);
+        x.wish(0, 0, 1);
+        for (int what = 0; what <= 12; what++) {
+            Checks.due("account(" + what + ") of a full map", want[what], x.account(what));
+        }
+        Checks.due("isWell() of a full map", true, x.isWell());
+        Checks.due("meanSize() of a full map", 7.0, x.meanSize());
+        Checks.due("painted() of a full map", 1.0f / 7.0f, x.painted());
     }
 }

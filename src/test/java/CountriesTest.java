@@ -158,6 +158,10 @@ public final class CountriesTest {
         Checks.due("hues(4)", 4, x.hues(4));
         x.undo();
         Checks.due("hues(5)", 4, x.hues(5));
+        FlagHues y = Checks.withSizes(1, 1, 1, 1, 1, 1, 1);
+        Checks.due("hues(2) of a full map", 3, y.hues(2));
+        y.paint(0, 1);
+        Checks.dueRefusal("hues(1) when country 0 has hue 1", 9, 0, y, () -> y.hues(1));
     }
 
     private static void promise8Pots() {

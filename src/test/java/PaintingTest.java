@@ -16,6 +16,7 @@ public final class PaintingTest {
         promise15Stuck();
         promise16Next();
         promise17Gentle();
+        promises10To17OfAFullMap();
         Checks.end();
     }
 
@@ -224,5 +225,44 @@ public final class PaintingTest {
         y.hues(1);
         Checks.dueThrow("gentle(1), stuck", NONE_SUCH, () -> y.gentle(1));
         Checks.due("gentle(0), it can be painted", 0, y.gentle(0));
+    }
+
+    private static void promises10To17OfAFullMap() {
+        FlagHues x = Checks.withSizes(1, 1, 1, 1, 1, 1, 1);
+        x.border(0, 6);
+        Checks.dueThrow("stuck() of a full map", NONE_SUCH, x::stuck);
+        Checks.due("next() of a full map", 0, x.next());
+        Checks.due("gentle(0) of a full map", 0, x.gentle(0));
+        Checks.due("fill() of a full map", 0, x.fill());
+        x.border(1, 6);
+        x.paint(1, 0);
+        x.border(6, 5);
+        x.erase(0, 6);
+        x.border(0, 5);
+        Checks.due("hue 0 robs country 0, and not 6", 0, x.gentle(5));
+        x.hues(2);
+        Checks.due("two hues: 6, then 5, then 0", 3, x.fill());
+        x.hues(2);
+        x.paint(2, 0);
+        x.paint(3, 0);
+        Checks.due("the seventh step", 7, x.paint(4, 1));
+        Checks.due("step(6)", 4, x.step(6));
+        Checks.due("fill() when all seven are painted", 0, x.fill());
+        Checks.dueThrow("stuck() when all seven are painted", NONE_SUCH, x::stuck);
+        Checks.dueThrow("next() when all seven are painted", NONE_SUCH, x::next);
+        int[] order = {4, 3, 2, 0, 5, 6, 1};
+        for (int country : order) {
+            Checks.due("back() of a full map", country, x.back());
+        }
+        Checks.dueRefusal("an eighth back()", 8, 0, x, x::back);
+        FlagHues y = Checks.withSizes(9, 1);
+        y.hues(1);
+        y.paint(1, 0);
+        Checks.due("stuck() when it is country 0", 0, y.stuck());
+        FlagHues z = Checks.withSizes(1, 1, 1);
+        z.border(0, 1);
+        z.border(0, 2);
+        z.paint(2, 1);
+        Checks.due("hue 0 robs country 0, hue 1 does not", 1, z.gentle(1));
     }
 }

@@ -94,10 +94,19 @@ public final class RunsTest {
             case 14: return same("fill", () -> x.fill(), () -> y.change("fill"));
             case 15: case 16:
                 return same("wish " + a + " " + h + " " + n, () -> x.wish(a, h, n), () -> y.change("wish", a, h, n));
-            case 17: return same("undo", () -> x.undo(), () -> y.undo());
+            case 17: return sameUndos(below(4) == 0 ? 1 + below(9) : 1);
             case 18: return below(3) != 0 || same("save", () -> x.save(), () -> y.save());
             default: return below(3) != 0 || same("restore", () -> x.restore(), () -> y.restore());
         }
+    }
+
+    /** Many in a row, so that countries go, and others come in their place. */
+    private boolean sameUndos(int many) {
+        boolean isSame = true;
+        for (int i = 0; i < many; i++) {
+            isSame &= same("undo", () -> x.undo(), () -> y.undo());
+        }
+        return isSame;
     }
 
     private String order() {

@@ -12,6 +12,7 @@ public final class TextsTest {
         promise28OrdersOutOfRange();
         promise28OrdersRefused();
         promise29ErrorPosition();
+        promise29ErrorPositionAfterALongerText();
         promise29ErrorPositionStays();
         promise30Refusal();
         promise30RefusalStays();
@@ -179,6 +180,35 @@ public final class TextsTest {
         Checks.due("the position of " + text, position, x.errorPosition());
         Checks.due("the input after " + text, 0, x.account(11));
         Checks.due("the changes after " + text, 1, x.account(12));
+    }
+
+    private static void promise29ErrorPositionAfterALongerText() {
+        String[] whole = {"p0=0", "p0=0", "p0=0", "w0=0*1", "w0=0*1", "j0+11", "j0+11", "h3", "f;f"};
+        String[] cut = {"p", "p0", "p0=", "w0=0", "w0=0*", "j0", "j0+", "h", "f;"};
+        for (int i = 0; i < whole.length; i++) {
+            FlagHues x = Checks.withSizes(1);
+            Checks.read(x, whole[i]);
+            Checks.type(x, cut[i]);
+            Checks.dueThrow("read() of " + cut[i] + " after " + whole[i], ILLEGAL, x::read);
+            Checks.due("its position", cut[i].length(), x.errorPosition());
+            Checks.type(x, sixtyCharactersThatEndWith(cut[i]));
+            Checks.dueThrow("read() of 60 characters that end with " + cut[i], ILLEGAL, x::read);
+            Checks.due("their position", 60, x.errorPosition());
+        }
+        FlagHues y = new FlagHues();
+        Checks.read(y, "j0+12");
+        Checks.due("a number of one digit after one of two", 1, Checks.read(y, "j0+1"));
+        Checks.due("the pots of 9, 12 and 1", 22, y.hueOf(0, 0));
+        Checks.due("a number at the very end", 29, Checks.read(y, sixtyCharactersThatEndWith("j0+2")));
+        Checks.due("the pots then", 24, y.hueOf(0, 0));
+    }
+
+    private static String sixtyCharactersThatEndWith(String end) {
+        StringBuilder text = new StringBuilder(end.length() % 2 == 0 ? "" : "h3;");
+        while (text.length() + end.length() < 60) {
+            text.append("f;");
+        }
+        return text.append(end).toString();
     }
 
     private static void promise29ErrorPositionStays() {

@@ -58,6 +58,12 @@ public final class WaysTest {
         x.back();
         x.back();
         Checks.due("after steps back", 4, x.fulfilled());
+        FlagHues y = Checks.withSizes(1, 1, 1, 1, 1, 1, 1);
+        y.wish(6, 1, 9);
+        y.wish(0, 1, 8);
+        y.paint(6, 1);
+        y.paint(0, 1);
+        Checks.due("fulfilled() of a full map", 17, y.fulfilled());
     }
 
     private static void dueWays(String map, int want, FlagHues x) {
@@ -90,6 +96,13 @@ public final class WaysTest {
         dueWays("without pots beside both hues", 0, x);
         x.hues(5);
         dueWays("with five hues beside two", 3, x);
+        FlagHues y = Checks.withSizes(1, 1, 1);
+        y.hues(1);
+        dueWays("of three with one hue", 1, y);
+        y.paint(0, 0);
+        dueWays("of two with one hue", 1, y);
+        y.border(2, 0);
+        dueWays("with one hue beside it", 0, y);
     }
 
     private static void promises20And21WaysOfKnownMaps() {
@@ -190,6 +203,10 @@ public final class WaysTest {
         ring.paint(0, 0);
         ring.paint(4, 1);
         Checks.due("fewest() of a path with two ends of one kind", 3, ring.fewest());
+        FlagHues high = Checks.withSizes(1, 1, 1, 1, 1, 1, 1);
+        high.paint(0, 2);
+        high.paint(6, 1);
+        Checks.due("the highest hue is not the last country's", 3, high.fewest());
         FlagHues done = Checks.withSizes(1, 1);
         done.hues(5);
         done.paint(1, 4);
