@@ -130,6 +130,13 @@ public final class PaintingTest {
         Checks.due("one leads to the next", 3, chain.fill());
         Checks.due("the chain's steps", "3210", "" + chain.step(0) + chain.step(1) + chain.step(2) + chain.step(3));
         Checks.due("the chain's end", 0, chain.countryOf(0, 1));
+        FlagHues five = Checks.complete(5);
+        five.hues(5);
+        for (int i = 0; i < 4; i++) {
+            five.paint(i, i);
+        }
+        Checks.due("the last of five hues", 1, five.fill());
+        Checks.due("it is hue 4", 4, five.countryOf(4, 1));
         FlagHues empty = new FlagHues();
         Checks.due("fill() without countries", 0, empty.fill());
         Checks.due("it is a change too", 1, empty.account(12));
