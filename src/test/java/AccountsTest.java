@@ -3,19 +3,7 @@ public final class AccountsTest {
     private static final Class<IllegalStateException> BAD_STATE = IllegalStateException.class;
 
     public static void main(String[] args) {
-        promise31Account();
-        promise32IsWell();
-        promise33MeanSize();
-        promise34Painted();
-        promise35Undo();
-        promise35UndoOfEachChange();
-        promise35UndoOfTheOrderOfSteps();
-        promise35OnlyEightAreUndone();
-        promise36Save();
-        promise37Restore();
-        promise37RestoreOfSizesAndSteps();
-        promise31And32OfAFullMap();
-        Checks.end();
+        Checks.runTestsOf(AccountsTest.class);
     }
 
     private static void promise31Account() {
@@ -105,20 +93,23 @@ public final class AccountsTest {
     }
 
     private static void promise35UndoOfEachChange() {
-        FlagHues x = Checks.withSizes(2, 3, 4);
-        x.border(0, 1);
-        x.paint(2, 1);
+        for (int i = 0; i < 12; i++) {
+            FlagHues x = Checks.withSizes(2, 3, 4);
+            x.border(0, 1);
+            x.paint(2, 1);
+            String before = Checks.pictureOf(x);
+            changeOf(i, x).answer();
+            Checks.due("the changes after change " + i, 6, x.account(12));
+            Checks.due("undo() of change " + i, 5, x.undo());
+            Checks.due("the map after undo of change " + i, before, Checks.pictureOf(x));
+        }
+    }
+
+    private static Checks.Call changeOf(int kind, FlagHues x) {
         Checks.Call[] changes = {() -> x.country(9), () -> x.border(1, 2), () -> x.erase(1, 0), () -> x.hues(4),
             () -> x.hues(3), () -> x.pots(3, 7), () -> x.paint(1, 0), x::back, x::fill, () -> x.wish(0, 1, 6),
             () -> Checks.read(x, "f"), () -> Checks.read(x, "x;p2=0;h5;j0+9;w1=1*1;b2-1")};
-        for (int i = 0; i < changes.length; i++) {
-            String before = Checks.pictureOf(x);
-            int many = x.account(12);
-            changes[i].answer();
-            Checks.due("the changes after change " + i, many + 1, x.account(12));
-            Checks.due("undo() of change " + i, many, x.undo());
-            Checks.due("the map after undo of change " + i, before, Checks.pictureOf(x));
-        }
+        return changes[kind];
     }
 
     private static void promise35UndoOfTheOrderOfSteps() {

@@ -4,17 +4,7 @@ public final class CountriesTest {
     private static final Class<IndexOutOfBoundsException> OUTSIDE = IndexOutOfBoundsException.class;
 
     public static void main(String[] args) {
-        promise1NewObject();
-        promise2Country();
-        promise3Border();
-        promise4Erase();
-        promise5HasBorder();
-        promise6CountryOf();
-        promise7Hues();
-        promise7HuesThatAreNeeded();
-        promise8Pots();
-        promise9HueOf();
-        Checks.end();
+        Checks.runTestsOf(CountriesTest.class);
     }
 
     private static void promise1NewObject() {
@@ -45,7 +35,7 @@ public final class CountriesTest {
             Checks.due("its neighbours", 0, x.countryOf(i, 2));
         }
         Checks.dueThrow("refusal before one", java.util.NoSuchElementException.class, () -> x.refusal(false));
-        Checks.dueThrowWithoutChange("an eighth country of size 0", ILLEGAL, x, () -> x.country(0));
+        Checks.dueThrow("an eighth country of size 0", ILLEGAL, () -> x.country(0));
         Checks.dueRefusal("an eighth country", 1, 7, x, () -> x.country(1));
         Checks.due("the countries then", 7, x.account(0));
     }

@@ -6,18 +6,7 @@ public final class PaintingTest {
     private static final Class<IndexOutOfBoundsException> OUTSIDE = IndexOutOfBoundsException.class;
 
     public static void main(String[] args) {
-        promise10Paint();
-        promise10OrderOfReasons();
-        promise11Bars();
-        promise12Back();
-        promise13Fill();
-        promise13FillTakesTheLowest();
-        promise14Step();
-        promise15Stuck();
-        promise16Next();
-        promise17Gentle();
-        promises10To17OfAFullMap();
-        Checks.end();
+        Checks.runTestsOf(PaintingTest.class);
     }
 
     private static void promise10Paint() {

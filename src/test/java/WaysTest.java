@@ -7,16 +7,7 @@ public final class WaysTest {
     private static final Class<IllegalArgumentException> ILLEGAL = IllegalArgumentException.class;
 
     public static void main(String[] args) {
-        promise18Wish();
-        promise19Fulfilled();
-        promises20And21Ways();
-        promises20And21WaysOfKnownMaps();
-        promise22WaysFor();
-        promise23Fewest();
-        promise24Clique();
-        promise25Line();
-        promise26Character();
-        Checks.end();
+        Checks.runTestsOf(WaysTest.class);
     }
 
     private static void promise18Wish() {
