@@ -168,6 +168,27 @@ public final class WaysEdgesTest {
         dueWays("with a fifth hue", 2, x);
     }
 
+    // "no two neighbours have the same one, those that are painted included": each of several in one hue
+    private static void promises20To22SeveralPaintedInOneHue() {
+        int[] painted = {0, 3, 6};
+        for (int hue = 0; hue < 3; hue++) {
+            for (int beside : painted) {
+                FlagHues x = Checks.full();
+                for (int country : painted) {
+                    x.paint(country, hue);
+                }
+                x.border(beside, 4);
+                dueWays("of four, one beside hue " + hue, 3 * 3 * 3 * 2, x);
+                x.wish(5, hue, 1);
+                Checks.due("waysFor(5)", 3 * 3 * 2, x.waysFor(5));
+                x.wish(4, (hue + 1) % 3, 1);
+                Checks.due("waysFor(4)", 3 * 3 * 3, x.waysFor(4));
+                x.wish(4, hue, 1);
+                Checks.due("waysFor(4) in the hue beside it", 0, x.waysFor(4));
+            }
+        }
+    }
+
     // "by numbers [..], if at most 4 countries are left; otherwise as ways does": every map of 4 and of 5 countries.
     private static void promises20And21EveryMapOfFourAndFive() {
         for (int borders = 0; borders < 1 << 6; borders++) {
