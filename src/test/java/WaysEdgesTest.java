@@ -168,6 +168,32 @@ public final class WaysEdgesTest {
         dueWays("with a fifth hue", 2, x);
     }
 
+    private static void promises20And21OneHueBesideAPaintedOne() {
+        FlagHues x = Checks.full();
+        x.hues(1);
+        x.paint(3, 0);
+        x.paint(5, 0);
+        x.paint(6, 0);
+        dueWays("of four with one hue", 1, x);
+        x.border(3, 0);
+        dueWays("of four with one hue, one beside it", 0, x);
+        x.erase(0, 3);
+        x.border(4, 2);
+        dueWays("of four with one hue, two neighbours", 0, x);
+    }
+
+    // "A wish can be for a hue that cannot be used": no way fulfils it
+    private static void promise22EachWishOfEachManyHues() {
+        for (int usable = 1; usable <= 5; usable++) {
+            for (int hue = 0; hue < 5; hue++) {
+                FlagHues x = Checks.withSizes(1, 1);
+                x.hues(usable);
+                x.wish(1, hue, 0);
+                Checks.due("wish for " + hue + " of " + usable, hue < usable ? usable : 0, x.waysFor(1));
+            }
+        }
+    }
+
     // "no two neighbours have the same one, those that are painted included": each of several in one hue
     private static void promises20To22SeveralPaintedInOneHue() {
         int[] painted = {0, 3, 6};
