@@ -1,3 +1,5 @@
+import java.lang.reflect.Field;
+
 /** The edges of promises 31 to 37; each test stands below the words of the document that it holds to. */
 public final class AccountsEdgesTest {
     private static final Class<IllegalArgumentException> ILLEGAL = IllegalArgumentException.class;
@@ -166,6 +168,91 @@ public final class AccountsEdgesTest {
         Checks.due("isWell() with one hue, and no border", true, same.isWell());
         same.border(1, 2);
         Checks.due("isWell() with a border of two that are not painted", true, same.isWell());
+    }
+
+    // "no border has one hue on both sides, and the steps are just the countries that are painted": no call can make it
+    // otherwise, so the state itself is spoilt here, each time in one way.
+    private static void promise32IsNotWell() {
+        for (int other : new int[] {0, 2, 6}) {
+            FlagHues x = fourSteps();
+            hues(x)[4] = hues(x)[other];
+            Checks.due("isWell() of " + other + " and 4 in one hue", other == 2, x.isWell());
+        }
+        for (int country = 0; country < 7; country++) {
+            FlagHues x = fourSteps();
+            boolean wasPainted = hues(x)[country] >= 0;
+            hues(x)[country] = wasPainted ? -1 : 4;
+            Checks.due("isWell() when " + country + " is a step or painted alone", false, x.isWell());
+        }
+        for (int place = 0; place < 4; place++) {
+            for (int country = 0; country < 7; country++) {
+                FlagHues x = fourSteps();
+                boolean isSame = steps(x)[place] == country;
+                steps(x)[place] = country;
+                Checks.due("isWell() with " + country + " as step " + place, isSame, x.isWell());
+            }
+        }
+    }
+
+    private static void promise32IsNotWellWithAStepTooManyOrTooFew() {
+        for (int many = 0; many <= 7; many++) {
+            FlagHues x = fourSteps();
+            setStepCount(x, many);
+            for (int place = 4; place < many; place++) {
+                steps(x)[place] = steps(x)[0];
+            }
+            Checks.due("isWell() with " + many + " steps of 4", many == 4, x.isWell());
+        }
+    }
+
+    /** Countries 6, 2, 0 and 4 in hues 0 to 3 are the steps; 4 has borders with 0 and 6, and 3 with 1. */
+    private static FlagHues fourSteps() {
+        FlagHues x = Checks.full();
+        x.hues(5);
+        x.border(0, 4);
+        x.border(4, 6);
+        x.border(3, 1);
+        int[] order = {6, 2, 0, 4};
+        for (int hue = 0; hue < 4; hue++) {
+            x.paint(order[hue], hue);
+        }
+        return x;
+    }
+
+    private static int[] hues(FlagHues x) {
+        return rowOf(x, "hue");
+    }
+
+    private static int[] steps(FlagHues x) {
+        return rowOf(x, "steps");
+    }
+
+    private static int[] rowOf(FlagHues x, String name) {
+        try {
+            Object land = landOf(x);
+            return (int[]) fieldOf(land.getClass(), name).get(land);
+        } catch (ReflectiveOperationException e) {
+            throw new IllegalStateException(e);
+        }
+    }
+
+    private static void setStepCount(FlagHues x, int many) {
+        try {
+            Object land = landOf(x);
+            fieldOf(land.getClass(), "stepCount").setInt(land, many);
+        } catch (ReflectiveOperationException e) {
+            throw new IllegalStateException(e);
+        }
+    }
+
+    private static Object landOf(FlagHues x) throws ReflectiveOperationException {
+        return fieldOf(FlagHues.class, "now").get(x);
+    }
+
+    private static Field fieldOf(Class<?> kind, String name) throws ReflectiveOperationException {
+        Field field = kind.getDeclaredField(name);
+        field.setAccessible(true);
+        return field;
     }
 
     // "Throws ArithmeticException if there are none"

@@ -27,6 +27,7 @@ public final class FaceTest {
         noOtherVisibleMembers();
         noPrivateMethodWithANameOfTheFace();
         sourceKeepsToTheLanguage();
+        callsMakeNothingButExceptions();
         methodsAreShort();
         Checks.end();
     }
@@ -120,6 +121,21 @@ public final class FaceTest {
                 }
             }
         }
+    }
+
+    /** Rows are made in constructors and used again: what a call makes is its exception alone. */
+    private static void callsMakeNothingButExceptions() throws IOException {
+        Pattern inField = Pattern.compile("\\s+(private )?final [\\w\\[\\]]+ \\w+ = new [^;]*;");
+        Pattern inThrow = Pattern.compile("\\s+(default: )?throw new \\w+Exception\\(\"[^\"]+\"\\);");
+        int elsewhere = 0;
+        for (String row : Files.readAllLines(SOURCE)) {
+            boolean isKnown = inField.matcher(row).matches() || inThrow.matcher(row).matches();
+            if (row.contains("new ") && !row.trim().startsWith("/") && !isKnown) {
+                elsewhere++;
+                Checks.due("what is made beside fields and exceptions", "kept[i] = new Land();", row.trim());
+            }
+        }
+        Checks.due("the rows that make something else", 1, elsewhere);
     }
 
     private static void methodsAreShort() throws IOException {
